@@ -5,6 +5,8 @@ public final class BatteriesAndAccountsTest {
     public static void main(String[] args) {
         promise19ChargeFromMains();
         promise19ChargeFromGenerators();
+        promise19ThreeBatteriesAtMost();
+        promise19LittleIsLeft();
         promise19WrongNumbers();
         promise20Wear();
         promise20WearNeedsACharge();
@@ -70,6 +72,39 @@ public final class BatteriesAndAccountsTest {
         CHECK.due("charging is not for loads", x.fromGenerators(), 265);
         CHECK.due("charged", x.intoBatteries(), 35);
         CHECK.due("given", x.fromBatteries(), 100);
+    }
+
+    private static void promise19ThreeBatteriesAtMost() {
+        BackupPower x = new BackupPower();
+        for (int i = 0; i < 3; i++) {
+            x.addLoad(1, 500);
+            x.addBattery(20000, 500, 500);
+        }
+        x.setMains(false);
+        x.pass(2);
+        x.setMains(true);
+        x.pass(1);
+        CHECK.due("the mains charge all at once", x.intoBatteries(), 1500);
+        CHECK.due("the last one too", x.chargeOf(2), 19500);
+    }
+
+    private static void promise19LittleIsLeft() {
+        BackupPower x = new BackupPower();
+        x.addLoad(1, 300);
+        for (int i = 0; i < 3; i++) {
+            x.addBattery(1000, 100, 40);
+        }
+        x.addGenerator(35, 1, 100);
+        x.addGenerator(30, 1, 100);
+        x.setTimes(0, 1);
+        x.setMains(false);
+        x.pass(1);
+        x.setPower(0, 10);
+        x.pass(1);
+        CHECK.due("battery 0 gets its charging rate", x.chargeOf(0), 940);
+        CHECK.due("battery 1 gets the rest", x.chargeOf(1), 915);
+        CHECK.due("battery 2 gets nothing", x.chargeOf(2), 900);
+        CHECK.due("together", x.intoBatteries(), 55);
     }
 
     private static void promise19WrongNumbers() {

@@ -15,6 +15,8 @@ public final class MinutesTest {
         promise18ReturnOrder();
         shedsNoMoreThanNeeded();
         shedsByBatteryRateAndCharge();
+        shedsForOneUnit();
+        returnsBySeveralGenerators();
         batteriesDoNotLetLoadsReturn();
         onlyTheFirstIsLookedAt();
         noReturnInAMinuteOfShedding();
@@ -232,6 +234,37 @@ public final class MinutesTest {
         CHECK.due("the second one gives nothing", x.chargeOf(1), 10);
         CHECK.due("50 against 10", x.pass(1), 1);
         CHECK.due("a charge that is too small stays", x.chargeOf(1), 10);
+    }
+
+    private static void shedsForOneUnit() {
+        BackupPower x = new BackupPower();
+        x.addLoad(1, 80);
+        x.addBattery(1000, 50, 10);
+        x.addBattery(1000, 30, 10);
+        x.setMains(false);
+        CHECK.due("80 against 80", x.pass(1), 0);
+        x.setPower(0, 81);
+        CHECK.due("81 against 80", x.pass(1), 1);
+    }
+
+    private static void returnsBySeveralGenerators() {
+        BackupPower x = new BackupPower();
+        x.addGenerator(40, 1, 100);
+        x.addGenerator(30, 1, 100);
+        x.addGenerator(20, 1, 100);
+        x.setTimes(0, 1);
+        x.setMains(false);
+        x.addLoad(1, 91);
+        x.pass(4);
+        CHECK.due("91 against 90", x.demand(), 0);
+        x.setPower(0, 90);
+        x.pass(1);
+        CHECK.due("90 against 90", x.demand(), 90);
+        CHECK.due("fuel 0", x.fuelOf(0), 96);
+        CHECK.due("from all together", x.fromGenerators(), 90);
+        CHECK.due("and it stays", x.pass(10), 0);
+        x.setPower(0, 91);
+        CHECK.due("91 against 90 again", x.pass(1), 1);
     }
 
     private static void batteriesDoNotLetLoadsReturn() {
