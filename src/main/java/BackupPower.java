@@ -313,15 +313,15 @@ public final class BackupPower {
     // ---- a minute
 
     private int passOneMinute() {
+        for (Battery battery : batteries) {
+            battery.chargeAhead = battery.charge;
+        }
         minutesPassed++;
         outageMinutes = mainsUp ? 0 : outageMinutes + 1;
         moveGenerators();
         int shed = mainsUp ? 0 : shedLoads();
         if (shed == 0) {
             returnLoad();
-        }
-        for (Battery battery : batteries) {
-            battery.chargeAhead = battery.charge;
         }
         serveLoads();
         chargeBatteries();
