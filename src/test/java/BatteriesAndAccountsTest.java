@@ -115,8 +115,8 @@ public final class BatteriesAndAccountsTest {
         x.addGenerator(1, 1, 1);
         x.addBattery(1, 1, 1);
         for (int wrong : new int[] {-1, 1, 3, Integer.MIN_VALUE, Integer.MAX_VALUE}) {
-            CHECK.index("chargeOf", x, () -> x.chargeOf(wrong));
-            CHECK.index("capacityOf", x, () -> x.capacityOf(wrong));
+            CHECK.index("chargeOf", () -> x.chargeOf(wrong));
+            CHECK.index("capacityOf", () -> x.capacityOf(wrong));
         }
     }
 
@@ -285,8 +285,8 @@ public final class BatteriesAndAccountsTest {
         x.addBattery(1, 1, 1);
         x.addLoad(1, 1);
         for (int wrong : new int[] {-1, 1, 10, Integer.MIN_VALUE, Integer.MAX_VALUE}) {
-            CHECK.index("energyOf", x, () -> x.energyOf(wrong));
-            CHECK.index("darkMinutes", x, () -> x.darkMinutes(wrong));
+            CHECK.index("energyOf", () -> x.energyOf(wrong));
+            CHECK.index("darkMinutes", () -> x.darkMinutes(wrong));
         }
     }
 

@@ -21,29 +21,24 @@ final class Check {
         due(what, got ? 1 : 0, want ? 1 : 0);
     }
 
-    /** The call must throw exactly this exception, and leave all that the object shows as it was. */
-    void throwing(String what, BackupPower x, Class<? extends RuntimeException> want, Call call) {
-        String before = Shown.of(x);
+    /** The call must throw exactly this exception. RefusalsTest looks at whether it changes something. */
+    void throwing(String what, Class<? extends RuntimeException> want, Call call) {
         String thrown = nameOfThrown(call);
         if (!thrown.equals(want.getSimpleName())) {
             report(what + " threw " + thrown + ", due is " + want.getSimpleName());
         }
-        String after = Shown.of(x);
-        if (!after.equals(before)) {
-            report(what + " changed\n" + before + "\ninto\n" + after);
-        }
     }
 
-    void index(String what, BackupPower x, Call call) {
-        throwing(what, x, IndexOutOfBoundsException.class, call);
+    void index(String what, Call call) {
+        throwing(what, IndexOutOfBoundsException.class, call);
     }
 
-    void argument(String what, BackupPower x, Call call) {
-        throwing(what, x, IllegalArgumentException.class, call);
+    void argument(String what, Call call) {
+        throwing(what, IllegalArgumentException.class, call);
     }
 
-    void state(String what, BackupPower x, Call call) {
-        throwing(what, x, IllegalStateException.class, call);
+    void state(String what, Call call) {
+        throwing(what, IllegalStateException.class, call);
     }
 
     void report(String text) {

@@ -30,11 +30,11 @@ public final class DevicesTest {
         CHECK.due("demand", x.demand(), 0);
         CHECK.due("batteryMinutes", x.batteryMinutes(), 1000);
         CHECK.due("sums", x.fromMains() + x.fromGenerators() + x.fromBatteries() + x.intoBatteries(), 0);
-        CHECK.index("stateOf(0)", x, () -> x.stateOf(0));
-        CHECK.index("chargeOf(0)", x, () -> x.chargeOf(0));
-        CHECK.index("fuelOf(0)", x, () -> x.fuelOf(0));
-        CHECK.index("shedOrder(0)", x, () -> x.shedOrder(0));
-        CHECK.index("returnOrder(0)", x, () -> x.returnOrder(0));
+        CHECK.index("stateOf(0)", () -> x.stateOf(0));
+        CHECK.index("chargeOf(0)", () -> x.chargeOf(0));
+        CHECK.index("fuelOf(0)", () -> x.fuelOf(0));
+        CHECK.index("shedOrder(0)", () -> x.shedOrder(0));
+        CHECK.index("returnOrder(0)", () -> x.returnOrder(0));
         CHECK.due("mains are up", x.setMains(true), true);
         CHECK.due("start time", x.setTimes(2, 1), 2);
         CHECK.due("pass with no device", x.pass(500), 0);
@@ -78,22 +78,22 @@ public final class DevicesTest {
         for (int i = 4; i < 10; i++) {
             CHECK.due("load", x.addLoad(1 + i % 5, 1), i);
         }
-        CHECK.state("the 11th load", x, () -> x.addLoad(1, 1));
-        CHECK.argument("the 11th load with a wrong rank", x, () -> x.addLoad(0, 1));
-        CHECK.argument("the 11th load with a wrong power", x, () -> x.addLoad(1, 501));
+        CHECK.state("the 11th load", () -> x.addLoad(1, 1));
+        CHECK.argument("the 11th load with a wrong rank", () -> x.addLoad(0, 1));
+        CHECK.argument("the 11th load with a wrong power", () -> x.addLoad(1, 501));
         CHECK.due("the last load is there", x.stateOf(9), BackupPower.SERVED);
-        CHECK.index("no load 10", x, () -> x.stateOf(10));
+        CHECK.index("no load 10", () -> x.stateOf(10));
     }
 
     private static void promise2WrongArguments() {
         BackupPower x = new BackupPower();
-        CHECK.argument("rank 0", x, () -> x.addLoad(0, 10));
-        CHECK.argument("rank 6", x, () -> x.addLoad(6, 10));
-        CHECK.argument("power 0", x, () -> x.addLoad(1, 0));
-        CHECK.argument("power 501", x, () -> x.addLoad(1, 501));
+        CHECK.argument("rank 0", () -> x.addLoad(0, 10));
+        CHECK.argument("rank 6", () -> x.addLoad(6, 10));
+        CHECK.argument("power 0", () -> x.addLoad(1, 0));
+        CHECK.argument("power 501", () -> x.addLoad(1, 501));
         for (int far : FAR) {
-            CHECK.argument("rank far out", x, () -> x.addLoad(far, 10));
-            CHECK.argument("power far out", x, () -> x.addLoad(1, far));
+            CHECK.argument("rank far out", () -> x.addLoad(far, 10));
+            CHECK.argument("power far out", () -> x.addLoad(1, far));
         }
         CHECK.due("the first load after refusals", x.addLoad(1, 10), 0);
     }
@@ -106,23 +106,23 @@ public final class DevicesTest {
         CHECK.due("its charge is its capacity", x.chargeOf(1), 20000);
         CHECK.due("the first one's capacity", x.capacityOf(0), 1);
         CHECK.due("third battery", x.addBattery(70, 30, 20), 2);
-        CHECK.state("the 4th battery", x, () -> x.addBattery(1, 1, 1));
-        CHECK.argument("the 4th battery with a wrong capacity", x, () -> x.addBattery(0, 1, 1));
-        CHECK.argument("the 4th battery with a wrong charging", x, () -> x.addBattery(1, 1, 501));
+        CHECK.state("the 4th battery", () -> x.addBattery(1, 1, 1));
+        CHECK.argument("the 4th battery with a wrong capacity", () -> x.addBattery(0, 1, 1));
+        CHECK.argument("the 4th battery with a wrong charging", () -> x.addBattery(1, 1, 501));
     }
 
     private static void promise3WrongArguments() {
         BackupPower x = new BackupPower();
-        CHECK.argument("capacity 0", x, () -> x.addBattery(0, 1, 1));
-        CHECK.argument("capacity 20001", x, () -> x.addBattery(20001, 1, 1));
-        CHECK.argument("rate 0", x, () -> x.addBattery(1, 0, 1));
-        CHECK.argument("rate 501", x, () -> x.addBattery(1, 501, 1));
-        CHECK.argument("charging 0", x, () -> x.addBattery(1, 1, 0));
-        CHECK.argument("charging 501", x, () -> x.addBattery(1, 1, 501));
+        CHECK.argument("capacity 0", () -> x.addBattery(0, 1, 1));
+        CHECK.argument("capacity 20001", () -> x.addBattery(20001, 1, 1));
+        CHECK.argument("rate 0", () -> x.addBattery(1, 0, 1));
+        CHECK.argument("rate 501", () -> x.addBattery(1, 501, 1));
+        CHECK.argument("charging 0", () -> x.addBattery(1, 1, 0));
+        CHECK.argument("charging 501", () -> x.addBattery(1, 1, 501));
         for (int far : FAR) {
-            CHECK.argument("capacity far out", x, () -> x.addBattery(far, 1, 1));
-            CHECK.argument("rate far out", x, () -> x.addBattery(1, far, 1));
-            CHECK.argument("charging far out", x, () -> x.addBattery(1, 1, far));
+            CHECK.argument("capacity far out", () -> x.addBattery(far, 1, 1));
+            CHECK.argument("rate far out", () -> x.addBattery(1, far, 1));
+            CHECK.argument("charging far out", () -> x.addBattery(1, 1, far));
         }
         CHECK.due("the first battery after refusals", x.addBattery(1, 1, 1), 0);
     }
@@ -137,23 +137,23 @@ public final class DevicesTest {
         CHECK.due("its tests", x.tests(1), 0);
         CHECK.due("third generator", x.addGenerator(50, 2, 7), 2);
         CHECK.due("the first one's fuel", x.fuelOf(0), 1);
-        CHECK.state("the 4th generator", x, () -> x.addGenerator(1, 1, 1));
-        CHECK.argument("the 4th generator with a wrong power", x, () -> x.addGenerator(0, 1, 1));
-        CHECK.argument("the 4th generator with a wrong tank", x, () -> x.addGenerator(1, 1, 1001));
+        CHECK.state("the 4th generator", () -> x.addGenerator(1, 1, 1));
+        CHECK.argument("the 4th generator with a wrong power", () -> x.addGenerator(0, 1, 1));
+        CHECK.argument("the 4th generator with a wrong tank", () -> x.addGenerator(1, 1, 1001));
     }
 
     private static void promise4WrongArguments() {
         BackupPower x = new BackupPower();
-        CHECK.argument("power 0", x, () -> x.addGenerator(0, 1, 1));
-        CHECK.argument("power 1001", x, () -> x.addGenerator(1001, 1, 1));
-        CHECK.argument("delay 0", x, () -> x.addGenerator(1, 0, 1));
-        CHECK.argument("delay 11", x, () -> x.addGenerator(1, 11, 1));
-        CHECK.argument("tank 0", x, () -> x.addGenerator(1, 1, 0));
-        CHECK.argument("tank 1001", x, () -> x.addGenerator(1, 1, 1001));
+        CHECK.argument("power 0", () -> x.addGenerator(0, 1, 1));
+        CHECK.argument("power 1001", () -> x.addGenerator(1001, 1, 1));
+        CHECK.argument("delay 0", () -> x.addGenerator(1, 0, 1));
+        CHECK.argument("delay 11", () -> x.addGenerator(1, 11, 1));
+        CHECK.argument("tank 0", () -> x.addGenerator(1, 1, 0));
+        CHECK.argument("tank 1001", () -> x.addGenerator(1, 1, 1001));
         for (int far : FAR) {
-            CHECK.argument("power far out", x, () -> x.addGenerator(far, 1, 1));
-            CHECK.argument("delay far out", x, () -> x.addGenerator(1, far, 1));
-            CHECK.argument("tank far out", x, () -> x.addGenerator(1, 1, far));
+            CHECK.argument("power far out", () -> x.addGenerator(far, 1, 1));
+            CHECK.argument("delay far out", () -> x.addGenerator(1, far, 1));
+            CHECK.argument("tank far out", () -> x.addGenerator(1, 1, far));
         }
         CHECK.due("the first generator after refusals", x.addGenerator(1, 1, 1), 0);
     }
@@ -172,9 +172,9 @@ public final class DevicesTest {
         CHECK.due("off when SHED", x.switchLoad(0, false), BackupPower.OFF);
         x.pass(3);
         CHECK.due("an OFF load stays OFF", x.stateOf(0), BackupPower.OFF);
-        CHECK.index("load 2", x, () -> x.switchLoad(2, true));
-        CHECK.index("load -1", x, () -> x.switchLoad(-1, false));
-        CHECK.index("load far out", x, () -> x.switchLoad(Integer.MAX_VALUE, false));
+        CHECK.index("load 2", () -> x.switchLoad(2, true));
+        CHECK.index("load -1", () -> x.switchLoad(-1, false));
+        CHECK.index("load far out", () -> x.switchLoad(Integer.MAX_VALUE, false));
     }
 
     private static void promise5ReturnsAsOthersDo() {
@@ -207,12 +207,12 @@ public final class DevicesTest {
         x.switchLoad(1, true);
         CHECK.due("power of a SHED load", x.setPower(1, 50), 40);
         CHECK.due("its state stays", x.stateOf(1), BackupPower.SHED);
-        CHECK.argument("power 0", x, () -> x.setPower(0, 0));
-        CHECK.argument("power 501", x, () -> x.setPower(0, 501));
-        CHECK.argument("power -1", x, () -> x.setPower(0, -1));
-        CHECK.index("load 2", x, () -> x.setPower(2, 10));
-        CHECK.index("load -1", x, () -> x.setPower(-1, 10));
-        CHECK.index("load 2 with a wrong power", x, () -> x.setPower(2, 0));
+        CHECK.argument("power 0", () -> x.setPower(0, 0));
+        CHECK.argument("power 501", () -> x.setPower(0, 501));
+        CHECK.argument("power -1", () -> x.setPower(0, -1));
+        CHECK.index("load 2", () -> x.setPower(2, 10));
+        CHECK.index("load -1", () -> x.setPower(-1, 10));
+        CHECK.index("load 2 with a wrong power", () -> x.setPower(2, 0));
         CHECK.due("the power after refusals", x.setPower(0, 7), 1);
         CHECK.due("the other power after refusals", x.setPower(1, 8), 50);
     }
@@ -233,12 +233,12 @@ public final class DevicesTest {
         CHECK.due("the other tank", x.fuelOf(1), 996);
         CHECK.due("just what is missing", x.refuel(1, 4), 4);
         x.pass(1);
-        CHECK.argument("units 0", x, () -> x.refuel(0, 0));
-        CHECK.argument("units 1001", x, () -> x.refuel(0, 1001));
-        CHECK.argument("units -1", x, () -> x.refuel(0, -1));
-        CHECK.index("generator 2", x, () -> x.refuel(2, 1));
-        CHECK.index("generator -1", x, () -> x.refuel(-1, 1));
-        CHECK.index("generator 2 with wrong units", x, () -> x.refuel(2, 0));
+        CHECK.argument("units 0", () -> x.refuel(0, 0));
+        CHECK.argument("units 1001", () -> x.refuel(0, 1001));
+        CHECK.argument("units -1", () -> x.refuel(0, -1));
+        CHECK.index("generator 2", () -> x.refuel(2, 1));
+        CHECK.index("generator -1", () -> x.refuel(-1, 1));
+        CHECK.index("generator 2 with wrong units", () -> x.refuel(2, 0));
         CHECK.due("the state stays", x.generatorState(0), BackupPower.RUNNING);
     }
 
@@ -249,11 +249,11 @@ public final class DevicesTest {
         CHECK.due("none at first", x.setFailures(0, 5), 0);
         CHECK.due("as set", x.setFailures(0, 2), 5);
         CHECK.due("the other's", x.setFailures(1, 0), 0);
-        CHECK.argument("failures -1", x, () -> x.setFailures(0, -1));
-        CHECK.argument("failures 6", x, () -> x.setFailures(0, 6));
-        CHECK.index("generator 2", x, () -> x.setFailures(2, 1));
-        CHECK.index("generator -1", x, () -> x.setFailures(-1, 1));
-        CHECK.index("generator 2 with wrong failures", x, () -> x.setFailures(2, 6));
+        CHECK.argument("failures -1", () -> x.setFailures(0, -1));
+        CHECK.argument("failures 6", () -> x.setFailures(0, 6));
+        CHECK.index("generator 2", () -> x.setFailures(2, 1));
+        CHECK.index("generator -1", () -> x.setFailures(-1, 1));
+        CHECK.index("generator 2 with wrong failures", () -> x.setFailures(2, 6));
         x.setTimes(0, 1);
         x.setMains(false);
         x.pass(2);
@@ -288,14 +288,14 @@ public final class DevicesTest {
         BackupPower x = new BackupPower();
         x.addGenerator(100, 1, 1000);
         x.setTests(0, 4, 2);
-        CHECK.argument("period -1", x, () -> x.setTests(0, -1, 1));
-        CHECK.argument("period 10001", x, () -> x.setTests(0, 10001, 1));
-        CHECK.argument("minutes 0", x, () -> x.setTests(0, 3, 0));
-        CHECK.argument("minutes 61", x, () -> x.setTests(0, 3, 61));
-        CHECK.argument("minutes 0 with no tests", x, () -> x.setTests(0, 0, 0));
-        CHECK.index("generator 1", x, () -> x.setTests(1, 3, 1));
-        CHECK.index("generator -1", x, () -> x.setTests(-1, 3, 1));
-        CHECK.index("generator 1 with a wrong period", x, () -> x.setTests(1, -1, 1));
+        CHECK.argument("period -1", () -> x.setTests(0, -1, 1));
+        CHECK.argument("period 10001", () -> x.setTests(0, 10001, 1));
+        CHECK.argument("minutes 0", () -> x.setTests(0, 3, 0));
+        CHECK.argument("minutes 61", () -> x.setTests(0, 3, 61));
+        CHECK.argument("minutes 0 with no tests", () -> x.setTests(0, 0, 0));
+        CHECK.index("generator 1", () -> x.setTests(1, 3, 1));
+        CHECK.index("generator -1", () -> x.setTests(-1, 3, 1));
+        CHECK.index("generator 1 with a wrong period", () -> x.setTests(1, -1, 1));
         x.pass(6);
         CHECK.due("the test lasts as before the refusals", x.generatorState(0), 12);
         x.pass(1);
@@ -308,11 +308,11 @@ public final class DevicesTest {
         CHECK.due("the start time at first", x.setTimes(0, 10), 2);
         CHECK.due("the least one", x.setTimes(30, 1), 0);
         CHECK.due("the greatest one", x.setTimes(7, 3), 30);
-        CHECK.argument("start -1", x, () -> x.setTimes(-1, 1));
-        CHECK.argument("start 31", x, () -> x.setTimes(31, 1));
-        CHECK.argument("stagger 0", x, () -> x.setTimes(5, 0));
-        CHECK.argument("stagger 11", x, () -> x.setTimes(5, 11));
-        CHECK.argument("stagger -1", x, () -> x.setTimes(5, -1));
+        CHECK.argument("start -1", () -> x.setTimes(-1, 1));
+        CHECK.argument("start 31", () -> x.setTimes(31, 1));
+        CHECK.argument("stagger 0", () -> x.setTimes(5, 0));
+        CHECK.argument("stagger 11", () -> x.setTimes(5, 11));
+        CHECK.argument("stagger -1", () -> x.setTimes(5, -1));
         CHECK.due("the start time after refusals", x.setTimes(4, 10), 7);
         x.addGenerator(10, 1, 10);
         x.setMains(false);

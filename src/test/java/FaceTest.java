@@ -22,16 +22,18 @@ public final class FaceTest {
     private static final String[] CONSTANTS = {
         "NONE=-1", "OFF=0", "SERVED=1", "SHED=2", "STOPPED=0", "STARTING=1", "RUNNING=2",
     };
+    // Each with its throws clause: index, argument or state for the exception that is named so.
     private static final String[] METHODS = {
-        "int addLoad(int,int)", "int addBattery(int,int,int)", "int addGenerator(int,int,int)",
-        "int switchLoad(int,boolean)", "int setPower(int,int)", "int refuel(int,int)",
-        "int setFailures(int,int)", "int setTests(int,int,int)", "int setTimes(int,int)",
-        "boolean setMains(boolean)", "int pass(int)", "int time()", "int outage()",
-        "int stateOf(int)", "int demand()", "int shedOrder(int)", "int returnOrder(int)",
-        "int chargeOf(int)", "int capacityOf(int)", "int generatorState(int)", "int fuelOf(int)",
-        "int batteryMinutes()", "int energyOf(int)", "int darkMinutes(int)", "int fromMains()",
-        "int fromGenerators()", "int fromBatteries()", "int intoBatteries()",
-        "int failedStarts(int)", "int tests(int)",
+        "int addLoad(int,int) argument state", "int addBattery(int,int,int) argument state",
+        "int addGenerator(int,int,int) argument state", "int switchLoad(int,boolean) index",
+        "int setPower(int,int) index argument", "int refuel(int,int) index argument",
+        "int setFailures(int,int) index argument", "int setTests(int,int,int) index argument",
+        "int setTimes(int,int) argument", "boolean setMains(boolean)", "int pass(int) argument",
+        "int time()", "int outage()", "int stateOf(int) index", "int demand()", "int shedOrder(int) index",
+        "int returnOrder(int) index", "int chargeOf(int) index", "int capacityOf(int) index",
+        "int generatorState(int) index", "int fuelOf(int) index", "int batteryMinutes()",
+        "int energyOf(int) index", "int darkMinutes(int) index", "int fromMains()", "int fromGenerators()",
+        "int fromBatteries()", "int intoBatteries()", "int failedStarts(int) index", "int tests(int) index",
     };
     // Each of these would leave the part of Java that LANGUAGE.md allows.
     private static final String[] FORBIDDEN = {
@@ -70,7 +72,7 @@ public final class FaceTest {
         Set<String> publicNames = new HashSet<>();
         for (Method method : face.getDeclaredMethods()) {
             if (!Modifier.isPrivate(method.getModifiers())) {
-                methods.add(nameAndTypes(method));
+                methods.add(signatureOf(method));
                 publicNames.add(method.getName());
             }
         }
@@ -83,6 +85,7 @@ public final class FaceTest {
         CHECK.due("constructors", constructors.length, 1);
         CHECK.due("a public one", constructors[0].getModifiers(), Modifier.PUBLIC);
         CHECK.due("its parameters", constructors[0].getParameterCount(), 0);
+        CHECK.due("its throws clause", constructors[0].getExceptionTypes().length, 0);
     }
 
     private static String nameAndValue(Field field) {
@@ -95,7 +98,7 @@ public final class FaceTest {
         }
     }
 
-    private static String nameAndTypes(Method method) {
+    private static String signatureOf(Method method) {
         if (method.getModifiers() != Modifier.PUBLIC) {
             return method.toString();
         }
@@ -103,7 +106,22 @@ public final class FaceTest {
         for (Class<?> type : method.getParameterTypes()) {
             types.add(type.getName());
         }
-        return method.getReturnType().getName() + " " + method.getName() + "(" + String.join(",", types) + ")";
+        StringBuilder text = new StringBuilder(method.getReturnType().getName());
+        text.append(' ').append(method.getName()).append('(').append(String.join(",", types)).append(')');
+        for (Class<?> thrown : method.getExceptionTypes()) {
+            text.append(' ').append(shortNameOf(thrown));
+        }
+        return text.toString();
+    }
+
+    private static String shortNameOf(Class<?> thrown) {
+        if (thrown == IndexOutOfBoundsException.class) {
+            return "index";
+        }
+        if (thrown == IllegalArgumentException.class) {
+            return "argument";
+        }
+        return thrown == IllegalStateException.class ? "state" : thrown.getName();
     }
 
     private static void everyClass() {
@@ -119,7 +137,8 @@ public final class FaceTest {
             int fields = 0;
             for (Field field : each.getDeclaredFields()) {
                 boolean isStatic = Modifier.isStatic(field.getModifiers());
-                CHECK.due(field + " is static and not final", isStatic && !Modifier.isFinal(field.getModifiers()), false);
+                boolean isFinal = Modifier.isFinal(field.getModifiers());
+                CHECK.due(field + " is static and not final", isStatic && !isFinal, false);
                 fields += isStatic ? 0 : 1;
             }
             CHECK.due(each + " has some twenty fields at most", fields <= 20, true);

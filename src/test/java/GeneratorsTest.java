@@ -310,10 +310,10 @@ public final class GeneratorsTest {
         x.addLoad(1, 1);
         x.addGenerator(1, 1, 1);
         for (int wrong : new int[] {-1, 1, 3, Integer.MIN_VALUE, Integer.MAX_VALUE}) {
-            CHECK.index("generatorState", x, () -> x.generatorState(wrong));
-            CHECK.index("fuelOf", x, () -> x.fuelOf(wrong));
-            CHECK.index("failedStarts", x, () -> x.failedStarts(wrong));
-            CHECK.index("tests", x, () -> x.tests(wrong));
+            CHECK.index("generatorState", () -> x.generatorState(wrong));
+            CHECK.index("fuelOf", () -> x.fuelOf(wrong));
+            CHECK.index("failedStarts", () -> x.failedStarts(wrong));
+            CHECK.index("tests", () -> x.tests(wrong));
         }
     }
 }

@@ -66,11 +66,11 @@ public final class MinutesTest {
     private static void promise12WrongArguments() {
         BackupPower x = new BackupPower();
         x.addLoad(1, 10);
-        CHECK.argument("0 minutes", x, () -> x.pass(0));
-        CHECK.argument("501 minutes", x, () -> x.pass(501));
-        CHECK.argument("-1 minute", x, () -> x.pass(-1));
-        CHECK.argument("far out", x, () -> x.pass(Integer.MAX_VALUE));
-        CHECK.argument("far below", x, () -> x.pass(Integer.MIN_VALUE));
+        CHECK.argument("0 minutes", () -> x.pass(0));
+        CHECK.argument("501 minutes", () -> x.pass(501));
+        CHECK.argument("-1 minute", () -> x.pass(-1));
+        CHECK.argument("far out", () -> x.pass(Integer.MAX_VALUE));
+        CHECK.argument("far below", () -> x.pass(Integer.MIN_VALUE));
     }
 
     private static void promise13Time() {
@@ -115,7 +115,7 @@ public final class MinutesTest {
         CHECK.due("OFF", x.stateOf(1), 0);
         CHECK.due("SHED", x.stateOf(2), 2);
         for (int wrong : new int[] {-1, 3, 10, Integer.MIN_VALUE, Integer.MAX_VALUE}) {
-            CHECK.index("stateOf", x, () -> x.stateOf(wrong));
+            CHECK.index("stateOf", () -> x.stateOf(wrong));
         }
     }
 
@@ -139,7 +139,7 @@ public final class MinutesTest {
             CHECK.due(what + ", place " + i, isShedding ? x.shedOrder(i) : x.returnOrder(i), want[i]);
         }
         for (int wrong : new int[] {-1, want.length, 10, Integer.MIN_VALUE, Integer.MAX_VALUE}) {
-            CHECK.index(what + ", place " + wrong, x,
+            CHECK.index(what + ", place " + wrong,
                     () -> isShedding ? x.shedOrder(wrong) : x.returnOrder(wrong));
         }
     }
