@@ -40,13 +40,6 @@ public final class DeviceBoundsTest {
         CHECK.end();
     }
 
-    private static BackupPower outage(int start, int stagger) {
-        BackupPower x = new BackupPower();
-        x.setTimes(start, stagger);
-        x.setMains(false);
-        return x;
-    }
-
     private static void switchOffAndOn(BackupPower x, int load) {
         x.switchLoad(load, false);
         x.switchLoad(load, true);
@@ -162,7 +155,7 @@ public final class DeviceBoundsTest {
 
     // "at most .. 3 generators"; promise 4: "Throws IllegalStateException if there are 3 generators".
     private static void threeGenerators() {
-        BackupPower x = outage(0, 1);
+        BackupPower x = Sites.outage(0, 1);
         for (int i = 0; i < 3; i++) {
             int number = i;
             CHECK.index("not there yet", () -> x.generatorState(number));
@@ -228,7 +221,7 @@ public final class DeviceBoundsTest {
 
     // "It is STOPPED at first"; "charge, which is the capacity at first"; "fuel, which is full at first".
     private static void addedIntoALongOutage() {
-        BackupPower x = outage(30, 1);
+        BackupPower x = Sites.outage(30, 1);
         x.addLoad(1, 10);
         x.pass(100);
         x.addBattery(70, 10, 10);
@@ -341,7 +334,7 @@ public final class DeviceBoundsTest {
 
     // Promise 4: "power: 1 to 1000".
     private static void leastAndGreatestGenerator() {
-        BackupPower x = outage(0, 1);
+        BackupPower x = Sites.outage(0, 1);
         CHECK.argument("power 0", () -> x.addGenerator(0, 1, 1));
         CHECK.argument("power 1001", () -> x.addGenerator(1001, 1, 1));
         x.addGenerator(1, 1, 10);
@@ -351,7 +344,7 @@ public final class DeviceBoundsTest {
         x.setPower(0, 1);
         x.pass(1);
         CHECK.due("1 of 1", x.fromGenerators(), 1);
-        BackupPower y = outage(0, 1);
+        BackupPower y = Sites.outage(0, 1);
         y.addGenerator(1000, 1, 1000);
         y.addLoad(1, 500);
         y.addLoad(1, 500);
@@ -363,7 +356,7 @@ public final class DeviceBoundsTest {
 
     // Promise 4: "delay: 1 to 10 minutes".
     private static void leastAndGreatestDelay() {
-        BackupPower x = outage(0, 1);
+        BackupPower x = Sites.outage(0, 1);
         CHECK.argument("delay 0", () -> x.addGenerator(1, 0, 1));
         CHECK.argument("delay 11", () -> x.addGenerator(1, 11, 1));
         x.addGenerator(1, 1, 100);
@@ -383,7 +376,7 @@ public final class DeviceBoundsTest {
 
     // Promise 4: "tank: 1 to 1000 units of fuel".
     private static void leastAndGreatestTank() {
-        BackupPower x = outage(0, 1);
+        BackupPower x = Sites.outage(0, 1);
         CHECK.argument("tank 0", () -> x.addGenerator(1, 1, 0));
         CHECK.argument("tank 1001", () -> x.addGenerator(1, 1, 1001));
         x.addGenerator(1, 1, 1);
@@ -457,7 +450,7 @@ public final class DeviceBoundsTest {
     }
 
     private static void refuelEmptyTank() {
-        BackupPower x = outage(0, 1);
+        BackupPower x = Sites.outage(0, 1);
         x.addGenerator(1, 1, 1);
         x.addGenerator(1, 1, 1000);
         x.pass(500);
@@ -477,7 +470,7 @@ public final class DeviceBoundsTest {
 
     private static void refuelNearlyFullTank() {
         for (int units = 1; units <= 6; units++) {
-            BackupPower x = outage(0, 1);
+            BackupPower x = Sites.outage(0, 1);
             x.addGenerator(1, 1, 10);
             x.pass(6);
             CHECK.due("5 are missing", x.fuelOf(0), 5);
@@ -489,7 +482,7 @@ public final class DeviceBoundsTest {
     // Promise 8: "failures: 0 to 5"; "how many of the next starts of a generator fail from now on".
     private static void leastAndGreatestFailures() {
         for (int failures = 0; failures <= 5; failures++) {
-            BackupPower x = outage(0, 1);
+            BackupPower x = Sites.outage(0, 1);
             x.addGenerator(1, 1, 100);
             CHECK.argument("failures -1", () -> x.setFailures(0, -1));
             CHECK.argument("failures 6", () -> x.setFailures(0, 6));
@@ -510,7 +503,7 @@ public final class DeviceBoundsTest {
     }
 
     private static void failuresAreCountedFromNowOn() {
-        BackupPower x = outage(0, 1);
+        BackupPower x = Sites.outage(0, 1);
         x.addGenerator(1, 2, 100);
         x.setFailures(0, 1);
         x.pass(2);

@@ -6,6 +6,9 @@
 public final class PowerBoundsTest {
     private static final Check CHECK = new Check("PowerBoundsTest");
     private static final int SERVED = BackupPower.SERVED, SHED = BackupPower.SHED;
+    // Ten loads, in an order of their own when they are shed.
+    private static final int[] RANKS = {3, 2, 4, 2, 5, 3, 1, 4, 3, 5};
+    private static final int[] POWERS = {50, 90, 70, 80, 10, 60, 500, 69, 51, 9};
 
     public static void main(String[] args) {
         leastAndGreatestPass();
@@ -44,21 +47,6 @@ public final class PowerBoundsTest {
         CHECK.end();
     }
 
-    private static BackupPower outage(int start, int stagger) {
-        BackupPower x = new BackupPower();
-        x.setTimes(start, stagger);
-        x.setMains(false);
-        return x;
-    }
-
-    private static BackupPower withLoads(int... ranksAndPowers) {
-        BackupPower x = new BackupPower();
-        for (int i = 0; i < ranksAndPowers.length; i += 2) {
-            x.addLoad(ranksAndPowers[i], ranksAndPowers[i + 1]);
-        }
-        return x;
-    }
-
     private static void shedPlaces(String what, BackupPower x, int... want) {
         for (int i = 0; i < want.length; i++) {
             CHECK.due(what + ", shedOrder(" + i + ")", x.shedOrder(i), want[i]);
@@ -77,7 +65,7 @@ public final class PowerBoundsTest {
 
     // Promise 12: "minutes: 1 to 500"; "how often a load became SHED in them".
     private static void leastAndGreatestPass() {
-        BackupPower x = withLoads(1, 100);
+        BackupPower x = Sites.withLoads(1, 100);
         CHECK.argument("0 minutes", () -> x.pass(0));
         CHECK.argument("501 minutes", () -> x.pass(501));
         CHECK.argument("-1 minute", () -> x.pass(-1));
@@ -85,14 +73,14 @@ public final class PowerBoundsTest {
         CHECK.due("time", x.time(), 1);
         CHECK.due("the greatest", x.pass(500), 0);
         CHECK.due("time", x.time(), 501);
-        BackupPower y = outage(0, 1);
+        BackupPower y = Sites.outage(0, 1);
         y.addLoad(1, 50);
         y.addGenerator(50, 1, 2);
         CHECK.due("one that is SHED from the first did not become so", y.pass(2), 0);
         CHECK.due("one that is shed as the tank is empty did", y.pass(500), 1);
         CHECK.due("it was served for two minutes", y.energyOf(0), 100);
         CHECK.due("and dark in all others", y.darkMinutes(0), 500);
-        BackupPower z = withLoads(1, 1, 2, 1, 3, 1, 4, 1, 5, 1, 1, 1, 2, 1, 3, 1, 4, 1, 5, 1);
+        BackupPower z = Sites.withLoads(1, 1, 2, 1, 3, 1, 4, 1, 5, 1, 1, 1, 2, 1, 3, 1, 4, 1, 5, 1);
         z.setMains(false);
         CHECK.due("ten in one minute", z.pass(1), 10);
         CHECK.due("none is left", z.pass(500), 0);
@@ -121,7 +109,7 @@ public final class PowerBoundsTest {
     // Step 2: "As long as the loads that are SERVED have more power, together, than both".
     private static void justEnoughIsNotShed() {
         for (int power = 79; power <= 82; power++) {
-            BackupPower x = withLoads(1, power);
+            BackupPower x = Sites.withLoads(1, power);
             x.addBattery(1000, 30, 1);
             x.addBattery(1000, 50, 1);
             x.setMains(false);
@@ -135,7 +123,7 @@ public final class PowerBoundsTest {
         int[] ratesOfBattery = {100, 99, 60, 59, 30, 29, 10, 9};
         int[] shed = {0, 1, 1, 2, 2, 3, 3, 4};
         for (int i = 0; i < ratesOfBattery.length; i++) {
-            BackupPower x = withLoads(1, 10, 2, 20, 3, 30, 4, 40);
+            BackupPower x = Sites.withLoads(1, 10, 2, 20, 3, 30, 4, 40);
             x.addBattery(1000, ratesOfBattery[i], 1);
             x.setMains(false);
             CHECK.due("100 of " + ratesOfBattery[i], x.pass(1), shed[i]);
@@ -146,13 +134,13 @@ public final class PowerBoundsTest {
     private static void batteriesAtRateAndCharge() {
         int[][] capacitiesRatesAndShed = {{50, 50, 0}, {49, 50, 1}, {50, 49, 1}, {51, 50, 0}, {50, 51, 0}};
         for (int[] row : capacitiesRatesAndShed) {
-            BackupPower x = withLoads(1, 50);
+            BackupPower x = Sites.withLoads(1, 50);
             x.addBattery(row[0], row[1], 1);
             x.setMains(false);
             CHECK.due("50 of capacity " + row[0] + ", rate " + row[1], x.pass(1), row[2]);
             CHECK.due("its charge", x.chargeOf(0), row[2] == 1 ? row[0] : row[0] - 50);
         }
-        BackupPower x = withLoads(1, 50);
+        BackupPower x = Sites.withLoads(1, 50);
         x.addBattery(50, 50, 1);
         x.addBattery(1000, 49, 1);
         x.setMains(false);
@@ -163,7 +151,7 @@ public final class PowerBoundsTest {
 
     // "Shedding, if the mains are down."
     private static void nothingIsShedWithTheMainsUp() {
-        BackupPower x = withLoads(1, 500, 1, 500);
+        BackupPower x = Sites.withLoads(1, 500, 1, 500);
         CHECK.due("no battery, no generator", x.pass(500), 0);
         x.setMains(false);
         x.setMains(true);
@@ -173,7 +161,7 @@ public final class PowerBoundsTest {
 
     // "those that are RUNNING and not on test": from the minute in which one becomes so.
     private static void sheddingCountsGeneratorsAtOnce() {
-        BackupPower x = withLoads(1, 60);
+        BackupPower x = Sites.withLoads(1, 60);
         x.addBattery(120, 60, 1);
         x.addGenerator(60, 2, 100);
         x.setTimes(0, 1);
@@ -181,7 +169,7 @@ public final class PowerBoundsTest {
         CHECK.due("the battery lasts until the generator runs", x.pass(3), 0);
         CHECK.due("it is empty", x.chargeOf(0), 0);
         CHECK.due("the generator has given", x.fromGenerators(), 60);
-        BackupPower y = withLoads(1, 60);
+        BackupPower y = Sites.withLoads(1, 60);
         y.addBattery(119, 60, 1);
         y.addGenerator(60, 2, 100);
         y.setTimes(0, 1);
@@ -199,10 +187,8 @@ public final class PowerBoundsTest {
             {0}, {0, 1}, {2, 0, 1}, {2, 0, 1, 3}, {4, 2, 0, 1, 3}, {4, 2, 5, 0, 1, 3}, {4, 2, 5, 0, 1, 3, 6},
             {4, 2, 7, 5, 0, 1, 3, 6}, {4, 2, 7, 5, 8, 0, 1, 3, 6}, {4, 9, 2, 7, 5, 8, 0, 1, 3, 6},
         };
-        int[] ranks = {3, 2, 4, 2, 5, 3, 1, 4, 3, 5};
-        int[] powers = {50, 90, 70, 80, 10, 60, 500, 69, 51, 9};
         for (int i = 0; i < 10; i++) {
-            x.addLoad(ranks[i], powers[i]);
+            x.addLoad(RANKS[i], POWERS[i]);
             shedPlaces((i + 1) + " loads", x, orders[i]);
             returnPlaces("none SHED of " + (i + 1), x);
         }
@@ -218,16 +204,14 @@ public final class PowerBoundsTest {
 
     // Promise 18: "place: 0 for the first one"; "if there is no such place".
     private static void placesOfTheOrderOfReturning() {
-        BackupPower x = outage(30, 1);
+        BackupPower x = Sites.outage(30, 1);
         returnPlaces("no load", x);
         int[][] orders = {
             {0}, {1, 0}, {1, 0, 2}, {3, 1, 0, 2}, {3, 1, 0, 2, 4}, {3, 1, 0, 5, 2, 4}, {6, 3, 1, 0, 5, 2, 4},
             {6, 3, 1, 0, 5, 7, 2, 4}, {6, 3, 1, 0, 8, 5, 7, 2, 4}, {6, 3, 1, 0, 8, 5, 7, 2, 9, 4},
         };
-        int[] ranks = {3, 2, 4, 2, 5, 3, 1, 4, 3, 5};
-        int[] powers = {50, 90, 70, 80, 10, 60, 500, 69, 51, 9};
         for (int i = 0; i < 10; i++) {
-            x.addLoad(ranks[i], powers[i]);
+            x.addLoad(RANKS[i], POWERS[i]);
             returnPlaces((i + 1) + " loads", x, orders[i]);
             shedPlaces("none SERVED of " + (i + 1), x);
         }
@@ -243,7 +227,7 @@ public final class PowerBoundsTest {
 
     // "of several that with the greatest power, then that with the greatest number", and the opposite.
     private static void ordersByPowerAndNumber() {
-        BackupPower x = withLoads(2, 20, 2, 21, 2, 20, 2, 19, 2, 20);
+        BackupPower x = Sites.withLoads(2, 20, 2, 21, 2, 20, 2, 19, 2, 20);
         shedPlaces("one rank", x, 1, 4, 2, 0, 3);
         x.setMains(false);
         CHECK.due("all are shed", x.pass(1), 5);
@@ -259,7 +243,7 @@ public final class PowerBoundsTest {
     // Step 3: "if the loads that are SERVED and it have no more power, together, than what generators can give".
     private static void returnsUpToWhatGeneratorsGive() {
         for (int power = 39; power <= 42; power++) {
-            BackupPower x = outage(0, 1);
+            BackupPower x = Sites.outage(0, 1);
             x.addGenerator(70, 1, 100);
             x.addGenerator(30, 1, 100);
             x.addBattery(1000, 500, 1);
@@ -277,7 +261,7 @@ public final class PowerBoundsTest {
 
     // "It becomes SERVED if the mains are up".
     private static void returnsWithTheMainsUpWhateverThePower() {
-        BackupPower x = outage(30, 1);
+        BackupPower x = Sites.outage(30, 1);
         for (int i = 0; i < 10; i++) {
             x.addLoad(5, 500);
         }
@@ -294,7 +278,7 @@ public final class PowerBoundsTest {
 
     // "the first of the loads that are SHED is looked at": no other one.
     private static void lessPowerBehindTheFirstDoesNotReturn() {
-        BackupPower x = outage(0, 1);
+        BackupPower x = Sites.outage(0, 1);
         x.addGenerator(10, 1, 100);
         x.addLoad(1, 11);
         x.addLoad(2, 1);
@@ -312,7 +296,7 @@ public final class PowerBoundsTest {
 
     // "and no load was shed in this minute".
     private static void noReturnInTheMinuteOfAShedding() {
-        BackupPower x = outage(0, 1);
+        BackupPower x = Sites.outage(0, 1);
         x.addGenerator(50, 1, 100);
         x.addLoad(5, 50);
         x.pass(2);
@@ -327,7 +311,7 @@ public final class PowerBoundsTest {
 
     // "the latest return of a load was at least as many minutes ago as the stagger time tells".
     private static void staggerFromTheLatestReturn() {
-        BackupPower x = withLoads(1, 1, 1, 2, 1, 3);
+        BackupPower x = Sites.withLoads(1, 1, 1, 2, 1, 3);
         x.setTimes(2, 10);
         x.pass(40);
         for (int i = 0; i < 3; i++) {
@@ -360,7 +344,7 @@ public final class PowerBoundsTest {
             {200, 2, 2, 1}, {250, 2, 2, 1}, {251, 2, 2, 2}, {300, 2, 2, 2},
         };
         for (int[] row : powersAndFuel) {
-            BackupPower x = outage(0, 1);
+            BackupPower x = Sites.outage(0, 1);
             for (int i = 0; i < 3; i++) {
                 x.addGenerator(100, 1, 50);
             }
@@ -380,7 +364,7 @@ public final class PowerBoundsTest {
             {95, 60, 0, 70},
         };
         for (int[] row : powersAndCharges) {
-            BackupPower x = withLoads(1, row[0]);
+            BackupPower x = Sites.withLoads(1, row[0]);
             x.addBattery(100, 40, 1);
             x.addBattery(25, 40, 1);
             x.addBattery(100, 30, 1);
@@ -395,14 +379,14 @@ public final class PowerBoundsTest {
 
     // Step 5: "the lesser of its charging rate and what is missing to its capacity".
     private static void fullBatteryGetsNothing() {
-        BackupPower x = withLoads(1, 10);
+        BackupPower x = Sites.withLoads(1, 10);
         x.addBattery(1, 1, 500);
         x.addBattery(20000, 500, 500);
         x.pass(3);
         CHECK.due("full from the first", x.intoBatteries(), 0);
         CHECK.due("the least one", x.chargeOf(0), 1);
         CHECK.due("the greatest one", x.chargeOf(1), 20000);
-        BackupPower y = outage(0, 1);
+        BackupPower y = Sites.outage(0, 1);
         y.addBattery(100, 1, 500);
         y.addGenerator(1000, 1, 100);
         y.pass(5);
@@ -412,7 +396,7 @@ public final class PowerBoundsTest {
 
     private static void missingChargeIsTheMost() {
         for (int missing = 1; missing <= 5; missing++) {
-            BackupPower x = withLoads(1, missing);
+            BackupPower x = Sites.withLoads(1, missing);
             x.addBattery(100, 10, 3);
             x.setMains(false);
             x.pass(1);
@@ -435,7 +419,7 @@ public final class PowerBoundsTest {
             {79, 910, 910}, {1, 910, 910},
         };
         for (int[] row : powersAndCharges) {
-            BackupPower x = withLoads(1, 200);
+            BackupPower x = Sites.withLoads(1, 200);
             x.addBattery(1000, 100, 10);
             x.addBattery(1000, 100, 10);
             x.addGenerator(60, 1, 1000);
@@ -459,7 +443,7 @@ public final class PowerBoundsTest {
             {60, 41, 3}, {500, 500, 20},
         };
         for (int[] row : powersRatesAndFuel) {
-            BackupPower x = withLoads(1, 500);
+            BackupPower x = Sites.withLoads(1, 500);
             x.addBattery(10000, 500, row[1]);
             x.addGenerator(1000, 1, 1000);
             x.setTimes(5, 1);
@@ -485,7 +469,7 @@ public final class PowerBoundsTest {
         int[][] ratesAndFuel = {{40, 1, 1, 1}, {41, 1, 1, 1}, {90, 1, 1, 1}, {91, 1, 2, 1}, {140, 1, 2, 1},
             {190, 1, 2, 1}, {191, 1, 2, 2}, {240, 1, 2, 2}, {241, 1, 2, 2}};
         for (int[] row : ratesAndFuel) {
-            BackupPower x = withLoads(1, 500);
+            BackupPower x = Sites.withLoads(1, 500);
             x.addBattery(10000, 500, row[0]);
             x.addGenerator(50, 1, 100);
             x.addGenerator(100, 1, 100);
@@ -505,7 +489,7 @@ public final class PowerBoundsTest {
 
     // "With the mains up they give all", and the charge: one that becomes RUNNING then gives nothing.
     private static void mainsServeAndChargeAlone() {
-        BackupPower x = withLoads(1, 100);
+        BackupPower x = Sites.withLoads(1, 100);
         x.addBattery(500, 100, 10);
         x.addGenerator(1000, 2, 100);
         x.setTimes(0, 1);
@@ -527,7 +511,7 @@ public final class PowerBoundsTest {
     // Step 6: "A battery that had a charge ahead of this minute, and has none now, has a capacity that is 1 less".
     private static void emptiedBatteryIsWorn() {
         for (int capacity = 49; capacity <= 51; capacity++) {
-            BackupPower x = withLoads(1, capacity > 50 ? 50 : capacity);
+            BackupPower x = Sites.withLoads(1, capacity > 50 ? 50 : capacity);
             x.addBattery(capacity, 50, 50);
             x.setMains(false);
             CHECK.due("from " + capacity, x.pass(1), 0);
@@ -540,7 +524,7 @@ public final class PowerBoundsTest {
     }
 
     private static void batteryThatWasEmptyIsNotWorn() {
-        BackupPower x = withLoads(1, 50);
+        BackupPower x = Sites.withLoads(1, 50);
         x.addBattery(50, 50, 1);
         x.setMains(false);
         x.pass(1);
@@ -564,7 +548,7 @@ public final class PowerBoundsTest {
 
     // "but at least 1".
     private static void capacityStaysAtLeastOne() {
-        BackupPower x = withLoads(1, 1);
+        BackupPower x = Sites.withLoads(1, 1);
         x.addBattery(3, 1, 3);
         int[] capacities = {2, 1, 1, 1};
         for (int capacity : capacities) {
@@ -642,7 +626,7 @@ public final class PowerBoundsTest {
     private static void forecastUpTo1000() {
         int[][] capacitiesAndMinutes = {{998, 998}, {999, 999}, {1000, 1000}, {1001, 1000}, {20000, 1000}};
         for (int[] row : capacitiesAndMinutes) {
-            BackupPower x = withLoads(1, 1);
+            BackupPower x = Sites.withLoads(1, 1);
             x.addBattery(row[0], 500, 1);
             CHECK.due("1 from " + row[0], x.batteryMinutes(), row[1]);
             x.setPower(0, 2);
@@ -653,7 +637,7 @@ public final class PowerBoundsTest {
 
     // "how many minutes come one after the other in which they can give all".
     private static void forecastOfJustEnough() {
-        BackupPower x = withLoads(1, 60);
+        BackupPower x = Sites.withLoads(1, 60);
         x.addBattery(90, 30, 1);
         x.addBattery(90, 30, 1);
         CHECK.due("60 of 30 and 30", x.batteryMinutes(), 3);
@@ -676,7 +660,7 @@ public final class PowerBoundsTest {
 
     // Promises 24 to 29: nothing yet, and the first minute.
     private static void energyAndDarkMinutesFromTheFirstMinute() {
-        BackupPower x = withLoads(1, 1, 5, 500);
+        BackupPower x = Sites.withLoads(1, 1, 5, 500);
         x.addBattery(1, 1, 1);
         CHECK.due("no energy yet", x.energyOf(1), 0);
         x.pass(1);
